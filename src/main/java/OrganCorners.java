@@ -537,7 +537,7 @@ public final class OrganCorners {
         }
 
         boolean isQuietAt(int hour) {
-            return Math.floorMod(hour - firstQuiet, HOURS) < quietHours;
+            return (hour - firstQuiet + HOURS) % HOURS < quietHours;
         }
 
         int distanceTo(Corner other) {
@@ -688,7 +688,9 @@ public final class OrganCorners {
         int permits() {
             int sum = 0;
             for (int organ = 0; organ < organCount; organ++) {
-                sum += asNumber(organs[organ].hasPermit);
+                if (organs[organ].hasPermit) {
+                    sum++;
+                }
             }
             return sum;
         }
@@ -696,7 +698,9 @@ public final class OrganCorners {
         int crewSize(int organ) {
             int sum = 0;
             for (int player = 0; player < playerCount; player++) {
-                sum += asNumber(players[player].crewOf == organ);
+                if (players[player].crewOf == organ) {
+                    sum++;
+                }
             }
             return sum;
         }
@@ -950,7 +954,7 @@ public final class OrganCorners {
         }
     }
 
-    /** The towns that undo can restore: a ring, so that the oldest is dropped without moving any. */
+    /** The towns that undo can restore: a ring, so that dropping the oldest one moves none. */
     private static final class SavedTowns {
         final Town[] ring = new Town[MAX_SAVED];
         int oldest;
@@ -1107,13 +1111,16 @@ public final class OrganCorners {
         private static int nearAhead(Town town, int set, int organ) {
             int sum = 0;
             for (int other = 0; other < organ; other++) {
-                sum += asNumber(holds(set, other) && town.areNear(organ, other));
+                if (holds(set, other) && town.areNear(organ, other)) {
+                    sum++;
+                }
             }
             return sum;
         }
 
         /** Chooses a tune for each organ of a set from one organ on; the depth is the organ. */
-        private static boolean findTunes(Town town, int[] playable, int[] chosen, int set, int organ) {
+        private static boolean findTunes(Town town, int[] playable, int[] chosen, int set,
+                int organ) {
             if (organ >= town.organCount || organ >= MAX_ORGANS) {
                 return true;
             }

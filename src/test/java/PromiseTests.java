@@ -26,6 +26,7 @@ public final class PromiseTests {
         playAmongOthers();
         next();
         potsAreShared();
+        fullTownEndsDay();
         fundOnWetDay();
         append();
         clearBuffer();
@@ -33,6 +34,8 @@ public final class PromiseTests {
         run();
         runStops();
         undo();
+        undoableCalls();
+        lastHour();
         cornerProperties();
         quietHours();
         organProperties();
@@ -107,6 +110,36 @@ public final class PromiseTests {
         }
     }
 
+    /** All that can be asked of a town, but for the number of saved states. */
+    private static String answers(OrganCorners town) {
+        StringBuilder all = new StringBuilder();
+        for (int what = 0; what <= 14; what++) {
+            all.append(town.count(what)).append(' ');
+        }
+        for (int which = 0; which < 5; which++) {
+            all.append(town.setting(which)).append(' ');
+        }
+        for (int corner = 0; corner < town.count(0); corner++) {
+            for (int what = 0; what <= 5; what++) {
+                all.append(town.corner(corner, what)).append(' ');
+            }
+        }
+        for (int organ = 0; organ < town.count(1); organ++) {
+            for (int what = 0; what <= 8; what++) {
+                all.append(town.organ(organ, what)).append(' ');
+            }
+            for (int player = 0; player < town.count(2); player++) {
+                all.append(town.hours(player, organ)).append(' ');
+            }
+        }
+        for (int player = 0; player < town.count(2); player++) {
+            for (int what = 0; what <= 4; what++) {
+                all.append(town.player(player, what)).append(' ');
+            }
+        }
+        return all.toString();
+    }
+
     private static void newObject() {
         OrganCorners town = new OrganCorners();
         for (int what = 0; what <= 15; what++) {
@@ -138,6 +171,7 @@ public final class PromiseTests {
             Checks.dueThrow(town, "2 far quiet", ARGUMENT, () -> town.addCorner(5, 1, 0, far));
         }
         Checks.dueThrow(town, "2 same place", STATE, () -> town.addCorner(99, 1, 0, 0));
+        Checks.dueThrow(town, "2 first place", STATE, () -> town.addCorner(0, 1, 0, 0));
         for (int place = 1; place <= 8; place++) {
             Checks.due("2 number", town.addCorner(place, 1, 0, 0), place + 1);
         }
@@ -355,6 +389,13 @@ public final class PromiseTests {
         Checks.due("11 half", town.play(0, 0), 16);
         // 33 * 8 / 10 is 26 ahead of the half
         Checks.due("11 half with another", town.play(1, 1), 13);
+        OrganCorners poor = new OrganCorners();
+        poor.addCorner(10, 1, 0, 0);
+        poor.addCorner(20, 1, 0, 0);
+        addOrgans(poor, 2);
+        poor.lots();
+        Checks.due("11 alone", poor.play(0, 0), 1);
+        Checks.due("11 0.8 rounded down", poor.play(1, 1), 0);
         OrganCorners small = single(1, 1);
         small.weather(true);
         Checks.due("11 half of 1", small.play(0, 0), 0);
@@ -430,6 +471,11 @@ public final class PromiseTests {
             Checks.due("12 like remainders " + player, town.player(player, 2), alike[player]);
             Checks.due("12 none from the fund", town.player(player, 3), 0);
         }
+        OrganCorners one = single(1, 2);
+        one.play(0, 0);
+        nextTimes(one, 10);
+        Checks.due("12 a pot of 1", one.player(0, 2), 1);
+        Checks.due("12 none left of it", one.player(1, 2), 0);
         OrganCorners later = single(50, 2);
         later.set(2, 0);
         later.play(0, 0);
@@ -440,6 +486,38 @@ public final class PromiseTests {
         // 100 * 1 / 3 has remainder 1, 100 * 2 / 3 has 2
         Checks.due("12 less remainder", later.player(0, 2), 33);
         Checks.due("12 more remainder", later.player(1, 2), 67);
+        OrganCorners large = single(50, 2);
+        large.set(2, 0);
+        large.set(1, 0);
+        for (int hour = 0; hour < 3; hour++) {
+            large.play(0, 0);
+            large.next();
+            if (hour == 0) {
+                large.assign(1, NONE);
+            }
+        }
+        // pot 150, hours 3 and 1: 112 remainder 2, 37 remainder 2
+        Checks.due("12 like remainders, as they would be", large.ifEnded(0), 113);
+        large.play(0, 0);
+        // pot 200, hours 4 and 1: no remainders
+        Checks.due("12 no remainders", large.ifEnded(0), 160);
+        large.next();
+        large.set(0, 0);
+        large.assign(1, 0);
+        large.play(0, 0);
+        large.next();
+        large.play(0, 0);
+        large.next();
+        large.assign(0, NONE);
+        large.play(0, 0);
+        // pot 350, hours 6 and 4: no remainders; then one hour more for player 1 alone
+        Checks.due("12 even", large.ifEnded(1), 140);
+        large.next();
+        large.play(0, 0);
+        nextTimes(large, 3);
+        // pot 400, hours 6 and 5: 218 remainder 2, 181 remainder 9
+        Checks.due("12 larger share, less remainder", large.player(0, 2), 218);
+        Checks.due("12 smaller share, more remainder", large.player(1, 2), 182);
         OrganCorners two = pair();
         two.set(2, 0);
         two.play(0, 0);
@@ -577,7 +655,7 @@ public final class PromiseTests {
             Checks.dueThrow(town, "16 run of " + text, ARGUMENT, () -> town.run());
             Checks.due("16 buffer stays", town.clearBuffer(), text.length());
         }
-        long before = town.digest();
+        String before = answers(town);
         type(town, "wet;dry;wet;lots;0:a;1:b;next;0:c;next");
         Checks.due("16 run", town.run(), 9);
         Checks.due("16 buffer is cleared", town.clearBuffer(), 0);
@@ -588,14 +666,7 @@ public final class PromiseTests {
         Checks.due("16 tunes at corner 0", town.corner(0, 4), 5);
         Checks.due("16 tunes at corner 1", town.corner(1, 4), 2);
         Checks.due("16 one undo", town.undo(), 5);
-        // the oldest of seven saved states is gone for good, so the digest differs by count(15)
-        Checks.due("16 undone hour", town.count(4), 0);
-        Checks.due("16 undone seed", town.count(6), 1);
-        Checks.due("16 undone wet", town.count(5), 0);
-        Checks.due("16 undone played", town.count(8), 0);
-        town.addPlayer();
-        town.undo();
-        Checks.due("16 as before", town.digest() == before ? 1 : 0, 0);
+        Checks.due("16 all is undone", answers(town).equals(before) ? 1 : 0, 1);
         StringBuilder full = new StringBuilder();
         for (int i = 0; i < 11; i++) {
             full.append("next;");
@@ -662,6 +733,110 @@ public final class PromiseTests {
         Checks.due("17 behind undo", town.setting(0), 7);
         Checks.due("17 back to the first", town.undo(), 0);
         Checks.due("17 first setting", town.setting(0), 20);
+    }
+
+    private static void undone(OrganCorners town, String what, Runnable call) {
+        String before = answers(town);
+        int left = Math.min(5, town.count(15));
+        call.run();
+        Checks.due("17 saved by " + what, town.count(15), left + 1);
+        Checks.due("17 undo of " + what, town.undo(), left);
+        Checks.due("17 undone " + what, answers(town).equals(before) ? 1 : 0, 1);
+    }
+
+    private static void undoableCalls() {
+        OrganCorners fresh = new OrganCorners();
+        undone(fresh, "addCorner", () -> fresh.addCorner(5, 6, 7, 8));
+        undone(fresh, "addOrgan", () -> fresh.addOrgan(9));
+        undone(fresh, "addPlayer", () -> fresh.addPlayer());
+        undone(fresh, "lots", () -> fresh.lots());
+        undone(fresh, "weather", () -> fresh.weather(true));
+        undone(fresh, "next", () -> fresh.next());
+        undone(fresh, "set", () -> fresh.set(4, 9));
+        OrganCorners town = new OrganCorners();
+        town.addCorner(5, 60, 7, 2);
+        town.addOrgan(30);
+        town.addPlayer();
+        undone(town, "permit", () -> town.permit(0, true));
+        undone(town, "barrel", () -> town.barrel(0, 5));
+        undone(town, "assign", () -> town.assign(0, 0));
+        town.permit(0, true);
+        town.barrel(0, 7);
+        undone(town, "lots with a permit", () -> town.lots());
+        town.assign(0, 0);
+        town.lots();
+        town.weather(true);
+        undone(town, "play", () -> town.play(0, 1));
+        town.play(0, 1);
+        undone(town, "next behind play", () -> town.next());
+        nextTimes(town, 9);
+        undone(town, "play in hour 9", () -> town.play(0, 2));
+        town.play(0, 2);
+        undone(town, "the end of a day", () -> town.next());
+        town.next();
+        type(town, "4:j");
+        undone(town, "run without an order done", () -> town.run());
+        type(town, "lots;0:a;next;next");
+        undone(town, "run", () -> town.run());
+    }
+
+    private static void lastHour() {
+        OrganCorners town = pair();
+        nextTimes(town, 9);
+        Checks.due("11 hour 9", town.play(0, 7), 50);
+        Checks.due("18 tunes of hour 9", town.corner(0, 4), 128);
+        Checks.due("18 heard in hour 9", town.corner(1, 5), 128);
+        Checks.due("22 in pots", town.count(13), 40);
+        town.undo();
+        Checks.due("17 hour 9 undone", town.corner(0, 4), 0);
+        town.play(0, 7);
+        town.next();
+        Checks.due("12 hour 9 forgotten", town.corner(0, 4), 0);
+        Checks.due("12 hour 9 not heard", town.corner(0, 5), 0);
+    }
+
+    private static void fullTownEndsDay() {
+        OrganCorners town = new OrganCorners();
+        for (int corner = 0; corner < 10; corner++) {
+            town.addCorner(corner * 11, 7, 0, 0);
+        }
+        addOrgans(town, 5);
+        for (int player = 5; player < 8; player++) {
+            town.addPlayer();
+            town.assign(player, 4);
+        }
+        town.set(2, 0);
+        town.set(0, 0);
+        town.lots();
+        for (int organ = 0; organ < 5; organ++) {
+            town.play(organ, organ);
+        }
+        nextTimes(town, 10);
+        // the pot of organ 4, 7, is shared by players 4 to 7
+        int[] got = {7, 7, 7, 7, 2, 2, 2, 1};
+        for (int player = 0; player < 8; player++) {
+            Checks.due("12 got in a full town " + player, town.player(player, 2), got[player]);
+            Checks.due("12 no hours in a full town " + player, town.player(player, 1), 0);
+        }
+        town.set(2, 50);
+        town.set(3, 100);
+        town.set(4, 1);
+        town.lots();
+        town.weather(true);
+        for (int hour = 0; hour < 10; hour++) {
+            for (int organ = 0; organ < 5; organ++) {
+                town.play(organ, hour);
+            }
+            town.next();
+        }
+        // each play takes 3, of which 1 comes to the fund; everybody has 10 hours
+        Checks.due("12 fund of a full town", town.count(11), 50);
+        town.weather(true);
+        nextTimes(town, 10);
+        for (int player = 0; player < 8; player++) {
+            Checks.due("12 from fund in a full town " + player, town.player(player, 3), 1);
+        }
+        Checks.due("12 left in the fund", town.count(11), 42);
     }
 
     private static void cornerProperties() {
@@ -930,6 +1105,9 @@ public final class PromiseTests {
         Checks.due("26 tune 0 hinders two", town.kindestTune(0), 1);
         town.play(2, 2);
         Checks.due("26 who played is not hindered", town.kindestTune(0), 0);
+        Checks.due("26 organ 0 is another one", town.kindestTune(1), 0);
+        town.barrel(0, 1);
+        Checks.due("26 organ 0 is hindered", town.kindestTune(1), 1);
         town.barrel(0, 4);
         Checks.due("26 can play none", town.kindestTune(0), NONE);
         Checks.dueThrow(town, "26 organ 3", INDEX, () -> town.kindestTune(3));
