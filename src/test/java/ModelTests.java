@@ -58,7 +58,11 @@ public final class ModelTests {
         }
     }
 
+    /** Behind the last call of an object's use nothing is asked any more: its answer is free. */
     private void same(String what, LongSupplier ours, LongSupplier due) {
+        if (call >= CALLS) {
+            return;
+        }
         call++;
         String got = outcome(ours);
         String want = outcome(due);

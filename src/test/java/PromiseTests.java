@@ -55,61 +55,6 @@ public final class PromiseTests {
         Checks.end("PromiseTests");
     }
 
-    /** Corners of crowd 50 without quiet hours, at these places. */
-    private static OrganCorners townWithCorners(int... places) {
-        OrganCorners town = new OrganCorners();
-        for (int place : places) {
-            town.addCorner(place, 50, 0, 0);
-        }
-        return town;
-    }
-
-    /** As many organs as told, with a permit, all tunes, owner's percent 0 and one player each. */
-    private static void addOrgans(OrganCorners town, int organs) {
-        for (int organ = 0; organ < organs; organ++) {
-            town.addOrgan(0);
-            town.permit(organ, true);
-            town.barrel(organ, 1023);
-            town.addPlayer();
-            town.assign(organ, organ);
-        }
-    }
-
-    /** Two corners at a distance of 20, organ 0 at corner 0 (draw(2) is 16838 % 2), 1 at 1. */
-    private static OrganCorners pair() {
-        OrganCorners town = townWithCorners(10, 30);
-        addOrgans(town, 2);
-        town.lots();
-        return town;
-    }
-
-    /** One corner and one organ at it, with as many players as told in its crew. */
-    private static OrganCorners single(int crowd, int players) {
-        OrganCorners town = new OrganCorners();
-        town.addCorner(40, crowd, 0, 0);
-        town.addOrgan(0);
-        town.permit(0, true);
-        town.barrel(0, 1023);
-        for (int player = 0; player < players; player++) {
-            town.addPlayer();
-            town.assign(player, 0);
-        }
-        town.lots();
-        return town;
-    }
-
-    private static void type(OrganCorners town, String text) {
-        for (int i = 0; i < text.length(); i++) {
-            town.append(text.charAt(i));
-        }
-    }
-
-    private static void nextTimes(OrganCorners town, int times) {
-        for (int i = 0; i < times; i++) {
-            town.next();
-        }
-    }
-
     /** All that can be asked of a town, but for the number of saved states. */
     private static String answers(OrganCorners town) {
         StringBuilder all = new StringBuilder();
@@ -214,7 +159,7 @@ public final class PromiseTests {
     }
 
     private static void permit() {
-        OrganCorners town = pair();
+        OrganCorners town = Towns.pair();
         Checks.due("5 taken", town.permit(0, false), 1);
         Checks.due("5 corner stays", town.organ(0, 3), 0);
         Checks.due("5 plays on", town.play(0, 0), 50);
@@ -245,7 +190,7 @@ public final class PromiseTests {
     }
 
     private static void assign() {
-        OrganCorners town = pair();
+        OrganCorners town = Towns.pair();
         town.play(0, 0);
         Checks.due("7 to another", town.assign(0, 1), 0);
         Checks.due("7 hours stay", town.hours(0, 0), 1);
@@ -282,10 +227,10 @@ public final class PromiseTests {
     }
 
     private static void lots() {
-        OrganCorners town = townWithCorners(0, 10, 20);
+        OrganCorners town = Towns.withCorners(0, 10, 20);
         Checks.due("9 nobody", town.lots(), 0);
         Checks.due("9 nothing drawn", town.count(6), 1);
-        addOrgans(town, 5);
+        Towns.addOrgans(town, 5);
         town.permit(1, false);
         // The generator's 16838, 5758 and 10113: organ 0 gets 16838 % 3, 2 gets 0, 3 the last one.
         Checks.due("9 three corners", town.lots(), 3);
@@ -309,15 +254,15 @@ public final class PromiseTests {
         Checks.due("9 undone", town.organ(2, 3), 2);
         town.next();
         Checks.dueThrow(town, "9 hour 1", STATE, () -> town.lots());
-        OrganCorners played = pair();
+        OrganCorners played = Towns.pair();
         played.play(0, 0);
         Checks.dueThrow(played, "9 played", STATE, () -> played.lots());
-        nextTimes(played, 10);
+        Towns.nextTimes(played, 10);
         Checks.due("9 next day", played.lots(), 2);
     }
 
     private static void weather() {
-        OrganCorners town = pair();
+        OrganCorners town = Towns.pair();
         Checks.due("10 wet", town.weather(true), 0);
         Checks.due("10 wet again", town.weather(true), 1);
         Checks.due("10 dry", town.weather(false), 1);
@@ -330,14 +275,14 @@ public final class PromiseTests {
         Checks.dueThrow(town, "10 played", STATE, () -> town.weather(true));
         town.next();
         Checks.dueThrow(town, "10 played before", STATE, () -> town.weather(false));
-        nextTimes(town, 8);
+        Towns.nextTimes(town, 8);
         Checks.due("10 next day", town.weather(true), 0);
-        nextTimes(town, 10);
+        Towns.nextTimes(town, 10);
         Checks.due("10 dry at first", town.count(5), 0);
     }
 
     private static void play() {
-        OrganCorners town = pair();
+        OrganCorners town = Towns.pair();
         Checks.dueThrow(town, "11 no organ, wrong", INDEX, () -> town.play(2, 10));
         Checks.dueThrow(town, "11 organ -1", INDEX, () -> town.play(-1, 0));
         Checks.dueThrow(town, "11 tune 10", ARGUMENT, () -> town.play(0, 10));
@@ -383,7 +328,7 @@ public final class PromiseTests {
         OrganCorners town = new OrganCorners();
         town.addCorner(10, 33, 0, 0);
         town.addCorner(20, 33, 0, 0);
-        addOrgans(town, 2);
+        Towns.addOrgans(town, 2);
         town.lots();
         town.weather(true);
         Checks.due("11 half", town.play(0, 0), 16);
@@ -392,11 +337,11 @@ public final class PromiseTests {
         OrganCorners poor = new OrganCorners();
         poor.addCorner(10, 1, 0, 0);
         poor.addCorner(20, 1, 0, 0);
-        addOrgans(poor, 2);
+        Towns.addOrgans(poor, 2);
         poor.lots();
         Checks.due("11 alone", poor.play(0, 0), 1);
         Checks.due("11 0.8 rounded down", poor.play(1, 1), 0);
-        OrganCorners small = single(1, 1);
+        OrganCorners small = Towns.single(1, 1);
         small.weather(true);
         Checks.due("11 half of 1", small.play(0, 0), 0);
         Checks.due("11 played all the same", small.count(7), 1);
@@ -404,8 +349,8 @@ public final class PromiseTests {
     }
 
     private static void playAmongOthers() {
-        OrganCorners town = townWithCorners(0, 20, 40, 60, 80);
-        addOrgans(town, 5);
+        OrganCorners town = Towns.withCorners(0, 20, 40, 60, 80);
+        Towns.addOrgans(town, 5);
         town.set(0, 99);
         town.lots();
         int[] due = {50, 40, 30, 20, 10};
@@ -414,21 +359,21 @@ public final class PromiseTests {
         }
         town.next();
         Checks.due("11 others of this hour alone", town.play(4, 5), 50);
-        OrganCorners edge = pair();
+        OrganCorners edge = Towns.pair();
         edge.play(0, 0);
         Checks.due("11 other at 20", edge.play(1, 1), 40);
-        OrganCorners beyond = pair();
+        OrganCorners beyond = Towns.pair();
         beyond.set(0, 19);
         beyond.play(0, 0);
         Checks.due("11 other beyond 19", beyond.play(1, 0), 50);
-        OrganCorners nearness = pair();
+        OrganCorners nearness = Towns.pair();
         nearness.set(0, 0);
         nearness.play(0, 3);
         Checks.due("11 distance 0", nearness.play(1, 3), 50);
     }
 
     private static void next() {
-        OrganCorners town = pair();
+        OrganCorners town = Towns.pair();
         town.weather(true);
         town.play(0, 4);
         for (int hour = 1; hour <= 9; hour++) {
@@ -461,32 +406,32 @@ public final class PromiseTests {
     }
 
     private static void potsAreShared() {
-        OrganCorners town = single(50, 3);
+        OrganCorners town = Towns.single(50, 3);
         town.set(2, 0);
         town.play(0, 0);
-        nextTimes(town, 10);
+        Towns.nextTimes(town, 10);
         // 50 / 3 is 16, the remainders are alike: the two lowest numbers get one more
         int[] alike = {17, 17, 16};
         for (int player = 0; player < 3; player++) {
             Checks.due("12 like remainders " + player, town.player(player, 2), alike[player]);
             Checks.due("12 none from the fund", town.player(player, 3), 0);
         }
-        OrganCorners one = single(1, 2);
+        OrganCorners one = Towns.single(1, 2);
         one.play(0, 0);
-        nextTimes(one, 10);
+        Towns.nextTimes(one, 10);
         Checks.due("12 a pot of 1", one.player(0, 2), 1);
         Checks.due("12 none left of it", one.player(1, 2), 0);
-        OrganCorners later = single(50, 2);
+        OrganCorners later = Towns.single(50, 2);
         later.set(2, 0);
         later.play(0, 0);
         later.assign(0, NONE);
         later.next();
         later.play(0, 1);
-        nextTimes(later, 9);
+        Towns.nextTimes(later, 9);
         // 100 * 1 / 3 has remainder 1, 100 * 2 / 3 has 2
         Checks.due("12 less remainder", later.player(0, 2), 33);
         Checks.due("12 more remainder", later.player(1, 2), 67);
-        OrganCorners large = single(50, 2);
+        OrganCorners large = Towns.single(50, 2);
         large.set(2, 0);
         large.set(1, 0);
         for (int hour = 0; hour < 3; hour++) {
@@ -514,23 +459,23 @@ public final class PromiseTests {
         Checks.due("12 even", large.ifEnded(1), 140);
         large.next();
         large.play(0, 0);
-        nextTimes(large, 3);
+        Towns.nextTimes(large, 3);
         // pot 400, hours 6 and 5: 218 remainder 2, 181 remainder 9
         Checks.due("12 larger share, less remainder", large.player(0, 2), 218);
         Checks.due("12 smaller share, more remainder", large.player(1, 2), 182);
-        OrganCorners two = pair();
+        OrganCorners two = Towns.pair();
         two.set(2, 0);
         two.play(0, 0);
         two.assign(0, 1);
         two.play(1, 1);
-        nextTimes(two, 10);
+        Towns.nextTimes(two, 10);
         Checks.due("12 of two pots", two.player(0, 2), 70);
         Checks.due("12 of one pot", two.player(1, 2), 20);
         Checks.due("12 all pots empty", two.count(13), 0);
     }
 
     private static void fundOnWetDay() {
-        OrganCorners town = single(90, 1);
+        OrganCorners town = Towns.single(90, 1);
         town.addPlayer();
         town.addPlayer();
         town.addPlayer();
@@ -545,7 +490,7 @@ public final class PromiseTests {
         }
         // 3 * (45 * 50 / 100) is in the fund; player 0 has 3 hours
         Checks.due("12 fund", town.count(11), 66);
-        nextTimes(town, 7);
+        Towns.nextTimes(town, 7);
         int[] fromFund = {0, 30, 30, 6};
         for (int player = 0; player < 4; player++) {
             Checks.due("12 from fund " + player, town.player(player, 3), fromFund[player]);
@@ -553,22 +498,22 @@ public final class PromiseTests {
         Checks.due("12 got", town.player(0, 2), 69);
         Checks.due("12 got from fund alone", town.player(2, 2), 30);
         Checks.due("12 fund is empty", town.count(11), 0);
-        OrganCorners dry = single(90, 1);
+        OrganCorners dry = Towns.single(90, 1);
         dry.addPlayer();
         dry.set(3, 100);
         dry.play(0, 0);
-        nextTimes(dry, 10);
+        Towns.nextTimes(dry, 10);
         Checks.due("12 dry day", dry.count(11), 18);
         dry.weather(true);
-        nextTimes(dry, 10);
+        Towns.nextTimes(dry, 10);
         Checks.due("12 wet day without plays", dry.count(11), 8);
-        OrganCorners twoHours = single(90, 1);
+        OrganCorners twoHours = Towns.single(90, 1);
         twoHours.set(3, 100);
         twoHours.weather(true);
         twoHours.play(0, 0);
         twoHours.next();
         twoHours.play(0, 1);
-        nextTimes(twoHours, 9);
+        Towns.nextTimes(twoHours, 9);
         Checks.due("12 fewer than 3 hours", twoHours.player(0, 3), 5);
     }
 
@@ -591,7 +536,7 @@ public final class PromiseTests {
 
     private static void clearBuffer() {
         OrganCorners town = new OrganCorners();
-        type(town, "lots");
+        Towns.type(town, "lots");
         Checks.due("14 length", town.clearBuffer(), 4);
         Checks.due("14 is empty", town.clearBuffer(), 0);
         Checks.due("14 starts anew", town.append('w'), 1);
@@ -600,7 +545,7 @@ public final class PromiseTests {
 
     private static void dueError(String text, int want) {
         OrganCorners town = new OrganCorners();
-        type(town, text);
+        Towns.type(town, text);
         long before = town.digest();
         Checks.due("15 firstError of " + text, town.firstError(), want);
         Checks.due("15 digest behind firstError", town.digest(), before);
@@ -647,16 +592,16 @@ public final class PromiseTests {
     }
 
     private static void run() {
-        OrganCorners town = townWithCorners(10, 30);
-        addOrgans(town, 2);
+        OrganCorners town = Towns.withCorners(10, 30);
+        Towns.addOrgans(town, 2);
         String[] incomplete = {"", "l", "lots;", "next;0", "next;0:", "x", "lots;;lots", "wet;lot"};
         for (String text : incomplete) {
-            type(town, text);
+            Towns.type(town, text);
             Checks.dueThrow(town, "16 run of " + text, ARGUMENT, () -> town.run());
             Checks.due("16 buffer stays", town.clearBuffer(), text.length());
         }
         String before = answers(town);
-        type(town, "wet;dry;wet;lots;0:a;1:b;next;0:c;next");
+        Towns.type(town, "wet;dry;wet;lots;0:a;1:b;next;0:c;next");
         Checks.due("16 run", town.run(), 9);
         Checks.due("16 buffer is cleared", town.clearBuffer(), 0);
         Checks.due("16 hour", town.count(4), 2);
@@ -671,34 +616,34 @@ public final class PromiseTests {
         for (int i = 0; i < 11; i++) {
             full.append("next;");
         }
-        type(town, full + "next");
+        Towns.type(town, full + "next");
         Checks.due("16 twelve hours", town.run(), 12);
         Checks.due("16 next day", town.count(3), 1);
         Checks.due("16 hour 2", town.count(4), 2);
     }
 
     private static void runStops() {
-        OrganCorners town = pair();
-        type(town, "4:a");
+        OrganCorners town = Towns.pair();
+        Towns.type(town, "4:a");
         Checks.due("16 no such organ", town.run(), 0);
         Checks.due("16 saved all the same", town.count(15), 6);
         Checks.due("16 cleared all the same", town.clearBuffer(), 0);
-        type(town, "0:a;0:b;next");
+        Towns.type(town, "0:a;0:b;next");
         Checks.due("16 stops at the second", town.run(), 1);
         Checks.due("16 the third is not done", town.count(4), 0);
-        type(town, "1:b;wet");
+        Towns.type(town, "1:b;wet");
         Checks.due("16 no weather when played", town.run(), 1);
-        type(town, "next;lots;next");
+        Towns.type(town, "next;lots;next");
         Checks.due("16 no lots in hour 1", town.run(), 1);
         Checks.due("16 hour 1", town.count(4), 1);
         OrganCorners fresh = new OrganCorners();
-        type(fresh, "0:a");
+        Towns.type(fresh, "0:a");
         Checks.due("16 none is done", fresh.run(), 0);
         Checks.due("16 undo of none", fresh.undo(), 0);
-        type(fresh, "dry;wet");
+        Towns.type(fresh, "dry;wet");
         Checks.due("16 weather", fresh.run(), 2);
         Checks.due("16 wet", fresh.count(5), 1);
-        type(fresh, "dry");
+        Towns.type(fresh, "dry");
         fresh.run();
         Checks.due("16 dry", fresh.count(5), 0);
     }
@@ -716,7 +661,7 @@ public final class PromiseTests {
             }
         }
         Checks.due("17 at most 6", town.count(15), 6);
-        type(town, "ne");
+        Towns.type(town, "ne");
         for (int left = 5; left >= 0; left--) {
             Checks.due("17 left", town.undo(), left);
             Checks.due("17 saved", town.count(15), left);
@@ -735,54 +680,53 @@ public final class PromiseTests {
         Checks.due("17 first setting", town.setting(0), 20);
     }
 
-    private static void undone(OrganCorners town, String what, Runnable call) {
-        String before = answers(town);
-        int left = Math.min(5, town.count(15));
-        call.run();
-        Checks.due("17 saved by " + what, town.count(15), left + 1);
-        Checks.due("17 undo of " + what, town.undo(), left);
-        Checks.due("17 undone " + what, answers(town).equals(before) ? 1 : 0, 1);
-    }
-
-    private static void undoableCalls() {
-        OrganCorners fresh = new OrganCorners();
-        undone(fresh, "addCorner", () -> fresh.addCorner(5, 6, 7, 8));
-        undone(fresh, "addOrgan", () -> fresh.addOrgan(9));
-        undone(fresh, "addPlayer", () -> fresh.addPlayer());
-        undone(fresh, "lots", () -> fresh.lots());
-        undone(fresh, "weather", () -> fresh.weather(true));
-        undone(fresh, "next", () -> fresh.next());
-        undone(fresh, "set", () -> fresh.set(4, 9));
+    private static OrganCorners smallTown() {
         OrganCorners town = new OrganCorners();
         town.addCorner(5, 60, 7, 2);
         town.addOrgan(30);
         town.addPlayer();
-        undone(town, "permit", () -> town.permit(0, true));
-        undone(town, "barrel", () -> town.barrel(0, 5));
-        undone(town, "assign", () -> town.assign(0, 0));
         town.permit(0, true);
         town.barrel(0, 7);
-        undone(town, "lots with a permit", () -> town.lots());
         town.assign(0, 0);
+        return town;
+    }
+
+    private static OrganCorners wetTown() {
+        OrganCorners town = smallTown();
         town.lots();
         town.weather(true);
-        undone(town, "play", () -> town.play(0, 1));
+        return town;
+    }
+
+    private static OrganCorners lastHourOfDay() {
+        OrganCorners town = wetTown();
         town.play(0, 1);
-        undone(town, "next behind play", () -> town.next());
-        nextTimes(town, 9);
-        undone(town, "play in hour 9", () -> town.play(0, 2));
-        town.play(0, 2);
-        undone(town, "the end of a day", () -> town.next());
-        town.next();
-        type(town, "4:j");
-        undone(town, "run without an order done", () -> town.run());
-        type(town, "lots;0:a;next;next");
-        undone(town, "run", () -> town.run());
+        Towns.nextTimes(town, 9);
+        return town;
+    }
+
+    private static void undoableCalls() {
+        Twins.undone("17 addCorner", Towns::fresh, town -> town.addCorner(5, 6, 7, 8));
+        Twins.undone("17 addOrgan", Towns::fresh, town -> town.addOrgan(9));
+        Twins.undone("17 addPlayer", Towns::fresh, town -> town.addPlayer());
+        Twins.undone("17 lots", Towns::fresh, town -> town.lots());
+        Twins.undone("17 weather", Towns::fresh, town -> town.weather(true));
+        Twins.undone("17 next", Towns::fresh, town -> town.next());
+        Twins.undone("17 set", Towns::fresh, town -> town.set(4, 9));
+        Twins.undone("17 permit", PromiseTests::smallTown, town -> town.permit(0, false));
+        Twins.undone("17 barrel", PromiseTests::smallTown, town -> town.barrel(0, 5));
+        Twins.undone("17 assign", PromiseTests::smallTown, town -> town.assign(0, NONE));
+        Twins.undone("17 lots with a permit", PromiseTests::smallTown, town -> town.lots());
+        Twins.undone("17 play", PromiseTests::wetTown, town -> town.play(0, 1));
+        Twins.undone("17 play in hour 9", PromiseTests::lastHourOfDay, town -> town.play(0, 2));
+        Twins.undone("17 the end of a day", PromiseTests::lastHourOfDay, town -> town.next());
+        Twins.undone("17 run, none done", Towns::fresh, town -> Towns.run(town, "4:j"));
+        Twins.undone("17 run", PromiseTests::wetTown, town -> Towns.run(town, "dry;0:a;next;next"));
     }
 
     private static void lastHour() {
-        OrganCorners town = pair();
-        nextTimes(town, 9);
+        OrganCorners town = Towns.pair();
+        Towns.nextTimes(town, 9);
         Checks.due("11 hour 9", town.play(0, 7), 50);
         Checks.due("18 tunes of hour 9", town.corner(0, 4), 128);
         Checks.due("18 heard in hour 9", town.corner(1, 5), 128);
@@ -800,7 +744,7 @@ public final class PromiseTests {
         for (int corner = 0; corner < 10; corner++) {
             town.addCorner(corner * 11, 7, 0, 0);
         }
-        addOrgans(town, 5);
+        Towns.addOrgans(town, 5);
         for (int player = 5; player < 8; player++) {
             town.addPlayer();
             town.assign(player, 4);
@@ -811,7 +755,7 @@ public final class PromiseTests {
         for (int organ = 0; organ < 5; organ++) {
             town.play(organ, organ);
         }
-        nextTimes(town, 10);
+        Towns.nextTimes(town, 10);
         // the pot of organ 4, 7, is shared by players 4 to 7
         int[] got = {7, 7, 7, 7, 2, 2, 2, 1};
         for (int player = 0; player < 8; player++) {
@@ -832,7 +776,7 @@ public final class PromiseTests {
         // each play takes 3, of which 1 comes to the fund; everybody has 10 hours
         Checks.due("12 fund of a full town", town.count(11), 50);
         town.weather(true);
-        nextTimes(town, 10);
+        Towns.nextTimes(town, 10);
         for (int player = 0; player < 8; player++) {
             Checks.due("12 from fund in a full town " + player, town.player(player, 3), 1);
         }
@@ -840,8 +784,8 @@ public final class PromiseTests {
     }
 
     private static void cornerProperties() {
-        OrganCorners town = townWithCorners(10, 30, 51);
-        addOrgans(town, 1);
+        OrganCorners town = Towns.withCorners(10, 30, 51);
+        Towns.addOrgans(town, 1);
         town.lots();
         // 16838 % 3
         Checks.due("18 organ", town.corner(2, 3), 0);
@@ -854,7 +798,7 @@ public final class PromiseTests {
         town.set(0, 21);
         Checks.due("18 heard at 21", town.corner(1, 5), 4);
         Checks.due("18 not heard at 41", town.corner(0, 5), 0);
-        nextTimes(town, 2);
+        Towns.nextTimes(town, 2);
         Checks.due("18 heard 2 hours on", town.corner(1, 5), 4);
         town.play(0, 9);
         Checks.due("18 two tunes", town.corner(2, 4), 516);
@@ -885,7 +829,7 @@ public final class PromiseTests {
     }
 
     private static void organProperties() {
-        OrganCorners town = pair();
+        OrganCorners town = Towns.pair();
         town.addOrgan(50);
         Checks.due("19 percent", town.organ(2, 0), 50);
         Checks.due("19 no permit", town.organ(2, 1), 0);
@@ -904,7 +848,7 @@ public final class PromiseTests {
         Checks.due("19 takings", town.organ(1, 7), 100);
         Checks.due("19 tune", town.organ(1, 8), 4);
         Checks.due("19 no tune", town.organ(0, 8), NONE);
-        nextTimes(town, 9);
+        Towns.nextTimes(town, 9);
         Checks.due("19 takings stay", town.organ(1, 7), 100);
         Checks.dueThrow(town, "19 what 9", ARGUMENT, () -> town.organ(0, 9));
         Checks.dueThrow(town, "19 what -1", ARGUMENT, () -> town.organ(0, -1));
@@ -913,7 +857,7 @@ public final class PromiseTests {
     }
 
     private static void playerProperties() {
-        OrganCorners town = pair();
+        OrganCorners town = Towns.pair();
         town.set(3, 100);
         town.weather(true);
         town.play(0, 0);
@@ -923,7 +867,7 @@ public final class PromiseTests {
         Checks.due("20 hours at both", town.player(0, 1), 2);
         Checks.due("20 hours", town.player(1, 1), 1);
         Checks.due("20 nothing yet", town.player(0, 2), 0);
-        nextTimes(town, 10);
+        Towns.nextTimes(town, 10);
         // pots 20 and 16; the fund has 5 + 4, so 5 go to player 0 and 4 to player 1
         Checks.due("20 got", town.player(0, 2), 20 + 8 + 5);
         Checks.due("20 from fund", town.player(0, 3), 5);
@@ -941,7 +885,7 @@ public final class PromiseTests {
     }
 
     private static void hours() {
-        OrganCorners town = pair();
+        OrganCorners town = Towns.pair();
         town.play(0, 0);
         town.next();
         town.play(0, 1);
@@ -972,7 +916,7 @@ public final class PromiseTests {
         town.weather(true);
         town.play(0, 0);
         town.play(1, 1);
-        nextTimes(town, 10);
+        Towns.nextTimes(town, 10);
         town.lots();
         town.weather(true);
         town.next();
@@ -1043,7 +987,7 @@ public final class PromiseTests {
     }
 
     private static void memoryAndDistance() {
-        OrganCorners town = pair();
+        OrganCorners town = Towns.pair();
         town.play(0, 5);
         Checks.due("24 heard by another at 20", town.whyNot(1, 5), 6);
         town.set(0, 19);
@@ -1056,7 +1000,7 @@ public final class PromiseTests {
         Checks.due("24 memory 1", town.whyNot(0, 5), 6);
         Checks.due("24 distance 0", town.whyNot(1, 5), 0);
         town.set(1, 9);
-        nextTimes(town, 8);
+        Towns.nextTimes(town, 8);
         Checks.due("24 memory 9 in hour 9", town.whyNot(0, 5), 6);
         town.set(1, 8);
         Checks.due("24 memory 8 in hour 9", town.whyNot(0, 5), 0);
@@ -1067,7 +1011,7 @@ public final class PromiseTests {
     }
 
     private static void ifPlayed() {
-        OrganCorners town = pair();
+        OrganCorners town = Towns.pair();
         Checks.due("25 alone", town.ifPlayed(0), 50);
         town.play(1, 0);
         Checks.due("25 with another", town.ifPlayed(0), 40);
@@ -1078,7 +1022,7 @@ public final class PromiseTests {
         Checks.due("25 another tune", town.ifPlayed(0), 40);
         town.barrel(0, 0);
         Checks.due("25 no tune", town.ifPlayed(0), NONE);
-        OrganCorners small = single(1, 1);
+        OrganCorners small = Towns.single(1, 1);
         small.weather(true);
         Checks.due("25 takings 0", small.ifPlayed(0), 0);
         Checks.dueThrow(town, "25 organ 2", INDEX, () -> town.ifPlayed(2));
@@ -1087,8 +1031,8 @@ public final class PromiseTests {
 
     private static void kindestTune() {
         // organs 0, 1, 2 at corners 2, 0, 1: places 40, 0 and 20
-        OrganCorners town = townWithCorners(0, 20, 40);
-        addOrgans(town, 3);
+        OrganCorners town = Towns.withCorners(0, 20, 40);
+        Towns.addOrgans(town, 3);
         town.lots();
         Checks.due("26 lowest of like ones", town.kindestTune(0), 0);
         town.barrel(1, 1);
@@ -1115,7 +1059,7 @@ public final class PromiseTests {
     }
 
     private static void most() {
-        OrganCorners town = pair();
+        OrganCorners town = Towns.pair();
         Checks.due("27 both", town.most(0), 90);
         Checks.due("27 both organs", town.most(1), 3);
         town.barrel(0, 1);
@@ -1135,11 +1079,11 @@ public final class PromiseTests {
         OrganCorners small = new OrganCorners();
         small.addCorner(0, 3, 0, 0);
         small.addCorner(5, 90, 0, 0);
-        addOrgans(small, 2);
+        Towns.addOrgans(small, 2);
         small.lots();
         Checks.due("27 the large one alone", small.most(0), 90);
         Checks.due("27 the large one's mask", small.most(1), 2);
-        OrganCorners nothing = single(1, 1);
+        OrganCorners nothing = Towns.single(1, 1);
         nothing.weather(true);
         Checks.due("27 takings 0", nothing.most(0), 0);
         Checks.due("27 mask 0", nothing.most(1), 0);
@@ -1147,8 +1091,8 @@ public final class PromiseTests {
 
     private static void mostNeedsTunes() {
         // organs 0, 1, 2 at corners 2, 0, 1, all near each other: 50 + 40 + 30
-        OrganCorners town = townWithCorners(0, 5, 10);
-        addOrgans(town, 3);
+        OrganCorners town = Towns.withCorners(0, 5, 10);
+        Towns.addOrgans(town, 3);
         town.lots();
         Checks.due("27 three", town.most(0), 120);
         town.barrel(0, 3);
@@ -1164,7 +1108,7 @@ public final class PromiseTests {
     }
 
     private static void ifEnded() {
-        OrganCorners town = single(90, 1);
+        OrganCorners town = Towns.single(90, 1);
         town.addPlayer();
         town.addPlayer();
         town.set(2, 50);
@@ -1183,7 +1127,7 @@ public final class PromiseTests {
             Checks.due("28 player " + player, town.ifEnded(player), due[player]);
         }
         Checks.due("28 nothing changes", town.digest(), before);
-        nextTimes(town, 9);
+        Towns.nextTimes(town, 9);
         for (int player = 0; player < 3; player++) {
             Checks.due("28 as it comes " + player, town.player(player, 2), due[player]);
             Checks.due("28 anew " + player, town.ifEnded(player), 0);
@@ -1193,16 +1137,16 @@ public final class PromiseTests {
     }
 
     private static void playersShare() {
-        OrganCorners town = single(70, 1);
+        OrganCorners town = Towns.single(70, 1);
         Checks.dueExactly("29 nothing", town.playersShare(), 0.0);
         town.play(0, 0);
         Checks.dueExactly("29 in the pot", town.playersShare(), 0.0);
-        nextTimes(town, 10);
+        Towns.nextTimes(town, 10);
         Checks.dueExactly("29 shared", town.playersShare(), 56.0 / 70.0);
-        OrganCorners all = single(70, 1);
+        OrganCorners all = Towns.single(70, 1);
         all.set(2, 0);
         all.play(0, 0);
-        nextTimes(all, 10);
+        Towns.nextTimes(all, 10);
         Checks.dueExactly("29 all", all.playersShare(), 1.0);
     }
 
@@ -1224,9 +1168,9 @@ public final class PromiseTests {
         long typed = mixed(2297, 0, 0, 0, 0, 0, 0, 1, 0, 0, 0, 0, 0, 0, 0, 0, 0, 20, 2, 20, 25, 5,
                 0, 0, 0, 2, 'l', 'x');
         Checks.due("30 typed", town.digest(), typed);
-        OrganCorners small = single(70, 1);
+        OrganCorners small = Towns.single(70, 1);
         small.play(0, 0);
-        nextTimes(small, 10);
+        Towns.nextTimes(small, 10);
         small.lots();
         // one corner, organ and player on day 1: 70 taken, fund 3, town 11, pot 56 shared;
         // the seed went by two draws of one corner each
