@@ -107,7 +107,8 @@ public final class PromiseTests {
         int[][] wrong = {{-1, 1, 0, 0}, {100, 1, 0, 0}, {5, 0, 0, 0}, {5, 91, 0, 0}, {5, 1, -1, 0},
             {5, 1, 10, 0}, {5, 1, 0, -1}, {5, 1, 0, 10}, {0, 0, 0, 0}};
         for (int[] w : wrong) {
-            Checks.dueThrow(town, "2 wrong", ARGUMENT, () -> town.addCorner(w[0], w[1], w[2], w[3]));
+            Checks.dueThrow(town, "2 wrong", ARGUMENT,
+                    () -> town.addCorner(w[0], w[1], w[2], w[3]));
         }
         for (int far : EXTREMES) {
             Checks.dueThrow(town, "2 far place", ARGUMENT, () -> town.addCorner(far, 1, 0, 0));

@@ -114,6 +114,109 @@ final class Towns {
         return town;
     }
 
+    static OrganCorners pairInHour(int hour) {
+        OrganCorners town = pair();
+        nextTimes(town, hour);
+        return town;
+    }
+
+    static OrganCorners pairThatPlayed(int hour) {
+        OrganCorners town = pairInHour(hour);
+        town.play(0, 0);
+        return town;
+    }
+
+    static OrganCorners fullNextDay() {
+        OrganCorners town = full();
+        town.play(0, 0);
+        nextTimes(town, 10);
+        return town;
+    }
+
+    /** Two organs; the reason, or 0 for none, is against organ 0 and tune 0. */
+    static OrganCorners pairWithReason(int reason) {
+        OrganCorners town = new OrganCorners();
+        town.addCorner(10, 50, 1, 1);
+        town.addCorner(30, 50, 1, 1);
+        addOrgans(town, 2);
+        if (reason != 1) {
+            town.lots();
+        }
+        if (reason == 2) {
+            town.assign(0, NONE);
+        } else if (reason == 3) {
+            town.barrel(0, 1022);
+        } else if (reason == 4) {
+            town.play(0, 1);
+        } else if (reason == 5) {
+            town.next();
+        } else if (reason == 6) {
+            town.play(1, 0);
+        }
+        return town;
+    }
+
+    /** An organ at a corner of crowd 1 on a wet day: half of 1, rounded down, is 0. */
+    static OrganCorners wetCorner() {
+        OrganCorners town = single(1, 1);
+        town.weather(true);
+        return town;
+    }
+
+    static OrganCorners halfIsOwners() {
+        OrganCorners town = withCorners(10);
+        town.addOrgan(50);
+        town.permit(0, true);
+        town.barrel(0, 1023);
+        town.addPlayer();
+        town.assign(0, 0);
+        town.lots();
+        return town;
+    }
+
+    static OrganCorners busyInHour9() {
+        OrganCorners town = busy();
+        nextTimes(town, 5);
+        return town;
+    }
+
+    static OrganCorners withSigns(int length) {
+        OrganCorners town = pair();
+        for (int sign = 0; sign < length; sign++) {
+            town.append('~' - sign);
+        }
+        return town;
+    }
+
+    /** A text of 60 characters of which the last one alone is a syntax error. */
+    static OrganCorners lastOfSixty() {
+        OrganCorners town = pair();
+        type(town, "next;next;next;next;next;next;next;next;next;next;next;nextx");
+        return town;
+    }
+
+    static OrganCorners pairWithText(String text) {
+        OrganCorners town = pair();
+        type(town, text);
+        return town;
+    }
+
+    static OrganCorners withoutStates() {
+        OrganCorners town = busy();
+        while (town.count(15) > 0) {
+            town.undo();
+        }
+        return town;
+    }
+
+    /** Towns whose players had different shares of the takings, 0 and 1 among them. */
+    static OrganCorners afterWetDay(int fund) {
+        OrganCorners town = withFund(fund, 1);
+        town.set(4, fund == 45 ? 50 : fund % 7);
+        nextTimes(town, 10);
+        return town;
+    }
+
     static void type(OrganCorners town, String text) {
         for (int i = 0; i < text.length(); i++) {
             town.append(text.charAt(i));
