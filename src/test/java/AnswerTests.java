@@ -274,6 +274,17 @@ public final class AnswerTests {
             Checks.due("26 idle for reason " + reason, town.whyNot(idle, 1), reason);
             Checks.due("26 beside one idle for " + reason, town.kindestTune(asked), due[reason]);
         }
+        // tunes 0 and 1 hinder one each, if both are near: one is at 20, the other at 20 or 21
+        for (int far = 20; far <= 21; far++) {
+            OrganCorners town = Towns.taken(50, 30, 10, 30 + far);
+            town.barrel(town.corner(0, 3), 3);
+            town.barrel(town.corner(1, 3), 2);
+            town.barrel(town.corner(2, 3), 1);
+            Checks.due("26 tune 0 of one at " + far, town.kindestTune(town.corner(0, 3)), 0);
+            town.barrel(town.corner(1, 3), 1);
+            town.barrel(town.corner(2, 3), 2);
+            Checks.due("26 tune 1 of one at " + far, town.kindestTune(town.corner(0, 3)), far - 20);
+        }
         // places 0, 10, 20 and 40: at 20 tune 1 is heard from 40, at 0 it is not
         OrganCorners heard = Towns.taken(50, 0, 10, 20, 40);
         heard.barrel(heard.corner(0, 3), 3);

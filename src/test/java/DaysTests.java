@@ -437,22 +437,29 @@ public final class DaysTests {
         byHoursAtThisOrgan();
     }
 
-    /** Pot 7, hours 3, 3 and 2: 21 / 8 is 2, remainder 5, twice, 14 / 8 is 1, remainder 6. */
+    /**
+     * Pot 7, hours 3, 3 and 2: 21 / 8 is 2, remainder 5, twice, 14 / 8 is 1, remainder 6. So the
+     * one with 2 hours gets the first of two units, and the lowest one of the others the second.
+     */
     private static void atMostOneUnit() {
-        OrganCorners town = Towns.single(3, 3);
-        town.set(2, 0);
-        town.play(0, 0);
-        town.set(2, 50);
-        town.next();
-        town.play(0, 1);
-        town.next();
-        town.assign(2, NONE);
-        town.play(0, 2);
-        Checks.due("pot of 7", town.organ(0, 5), 7);
-        Towns.nextTimes(town, 8);
-        Checks.due("at most one to each: player 0", town.player(0, 2), 3);
-        Checks.due("at most one to each: player 1", town.player(1, 2), 2);
-        Checks.due("at most one to each: player 2", town.player(2, 2), 2);
+        int[][] due = {{2, 3, 2}, {3, 2, 2}, {3, 2, 2}};
+        for (int leaves = 0; leaves < 3; leaves++) {
+            OrganCorners town = Towns.single(3, 3);
+            town.set(2, 0);
+            town.play(0, 0);
+            town.set(2, 50);
+            town.next();
+            town.play(0, 1);
+            town.next();
+            town.assign(leaves, NONE);
+            town.play(0, 2);
+            Checks.due("pot of 7", town.organ(0, 5), 7);
+            Towns.nextTimes(town, 8);
+            for (int player = 0; player < 3; player++) {
+                Checks.due("at most one to each, 2 hours of " + leaves + ": player " + player,
+                        town.player(player, 2), due[leaves][player]);
+            }
+        }
     }
 
     /** Pot 150, hours 3 and 1: 112 and 37, remainder 2 both; the unit is the first player's. */

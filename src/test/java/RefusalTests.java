@@ -122,6 +122,14 @@ public final class RefusalTests {
             Checks.due("5 given to " + organ, town.permit(organ, true), 1 + organ);
         }
         Checks.due("5 given to all", town.permit(0, true), 5);
+        OrganCorners stays = Towns.pair();
+        stays.permit(0, false);
+        Checks.due("5 its corner stays", stays.organ(0, 3), 0);
+        Checks.due("5 it stays at its corner", stays.corner(0, 3), 0);
+        Checks.due("5 it plays on", stays.play(0, 0), 50);
+        Towns.nextTimes(stays, 10);
+        Checks.due("5 no lot on the next day", stays.lots(), 1);
+        Checks.due("5 no corner on the next day", stays.organ(0, 3), NONE);
         Twins.undone("5 permit taken", Towns::busy, busy -> busy.permit(1, false));
         Twins.undone("5 permit as it was", Towns::busy, busy -> busy.permit(1, true));
     }
@@ -158,6 +166,16 @@ public final class RefusalTests {
         Checks.due("7 from the last", town.assign(0, NONE), 4);
         Checks.due("7 from none", town.assign(0, 0), NONE);
         Checks.due("7 to the same", town.assign(0, 0), 0);
+        OrganCorners played = Towns.pair();
+        played.play(0, 0);
+        played.assign(0, NONE);
+        Checks.due("7 the hours stay", played.hours(0, 0), 1);
+        played.assign(0, 1);
+        Checks.due("7 the hours stay, in another crew", played.hours(0, 0), 1);
+        Checks.due("7 the hours of the day stay", played.player(0, 1), 1);
+        Checks.due("7 none at the other organ", played.hours(0, 1), 0);
+        Towns.nextTimes(played, 10);
+        Checks.due("7 the pot of the former organ", played.player(0, 2), 40);
         Twins.undone("7 assign", Towns::busy, busy -> busy.assign(0, 1));
         Twins.undone("7 assign to none", Towns::busy, busy -> busy.assign(2, NONE));
         Twins.undone("7 assign to the same", Towns::busy, busy -> busy.assign(0, 0));
