@@ -324,8 +324,9 @@ public final class AnswerTests {
         }
     }
 
-    /** "Throws IllegalArgumentException if what is not 0 or 1", "(0 and the mask 0 if none can
-     * play)", "of several such sets the one whose mask is the least" */
+    /** "Throws IllegalArgumentException if what is not 0 or 1", "the greatest takings, together, of
+     * some organs (perhaps of none)", "(0 and the mask 0 if none can play)", "of several such sets
+     * the one whose mask is the least" */
     private static void most() {
         Bounds.of("27 what", Towns::fresh, ARGUMENT, 0, 1, (town, it) -> town.most(it));
         Bounds.of("27 what", Towns::busy, ARGUMENT, 0, 1, (town, it) -> town.most(it));
@@ -395,7 +396,9 @@ public final class AnswerTests {
         Bounds.asks("29 playersShare", town -> town.playersShare());
     }
 
-    /** "The hash starts at 2297.", "the length of the buffer and each of its character codes" */
+    /** "The hash starts at 2297. For each value v of the following list, in order, the hash becomes
+     * 31 * hash + v, in long arithmetic with overflow.", "the bits of playersShare (as
+     * Double.doubleToLongBits); the length of the buffer and each of its character codes" */
     private static void digest() {
         Bounds.asks("30 digest", town -> town.digest());
         for (int length = 0; length <= 60; length++) {

@@ -109,7 +109,7 @@ public final class RefusalTests {
     }
 
     /** "Throws IndexOutOfBoundsException if there is no such organ", "Returns how many organs have
-     * a permit then." */
+     * a permit then.", "(its corner stays on this day)" */
     private static void permit() {
         Bounds.ofOrgans("5 given", (town, it) -> town.permit(it, true));
         Bounds.ofOrgans("5 taken", (town, it) -> town.permit(it, false));
@@ -134,7 +134,8 @@ public final class RefusalTests {
         Twins.undone("5 permit as it was", Towns::busy, busy -> busy.permit(1, true));
     }
 
-    /** "tunes: the tunes on it, as a bit mask, 0 to 1023" */
+    /** "tunes: the tunes on it, as a bit mask, 0 to 1023", "Returns the tunes that were on the
+     * barrel before." */
     private static void barrel() {
         Bounds.ofOrgans("6 organ", (town, it) -> town.barrel(it, 0));
         Bounds.of("6 tunes", Towns::busy, ARGUMENT, 0, 1023, (town, it) -> town.barrel(1, it));
@@ -149,7 +150,7 @@ public final class RefusalTests {
     }
 
     /** "organ: the number of the organ; NONE: none", "Throws IndexOutOfBoundsException if there is
-     * no such player or organ" */
+     * no such player or organ", "(The hours that the player has stay.)" */
     private static void assign() {
         Bounds.ofPlayers("7 player to none", (town, it) -> town.assign(it, NONE));
         Bounds.of("7 player to an organ", Towns::busy, INDEX, 0, 2,
@@ -278,8 +279,8 @@ public final class RefusalTests {
         Twins.undone("12 end of an empty day", () -> Towns.pairInHour(9), town -> town.next());
     }
 
-    /** "code: the character code, 33 to 126", "Throws IllegalStateException if the buffer has 60
-     * characters" */
+    /** "The buffer has at most 60 characters.", "code: the character code, 33 to 126", "Throws
+     * IllegalStateException if the buffer has 60 characters" */
     private static void append() {
         Bounds.of("13 code", Towns::busy, ARGUMENT, 33, 126, (town, it) -> town.append(it));
         int[] wrong = {0, 10, 32, 127, 128, 255, 256 + 'a', 65536 + 'a'};

@@ -269,7 +269,7 @@ public final class TermsTests {
         Checks.due("a row of 60 characters", row.length() == 60 && runs(row) ? 1 : 0, 1);
     }
 
-    /** "an order is one of the words ... or the digit of an organ, 0 to 4, ":" and a letter, "a" to
+    /** "An order is one of the words ... or the digit of an organ, 0 to 4, ":" and a letter, "a" to
      * "j"": behind each beginning each character */
     private static void signsOfOrders() {
         String[][] may = {{"", "lwdn01234"}, {"l", "o"}, {"lo", "t"}, {"lot", "s"}, {"lots", ";"},
